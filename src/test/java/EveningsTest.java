@@ -147,6 +147,18 @@ public final class EveningsTest {
             }
         }
         Due.is("12: z", x.count(7), z);
+        for (int more = 0; more < 2; more++) {
+            TwelveShort w = new TwelveShort();
+            w.person(5, 0, 50, 0);
+            z = 4712;
+            w.seed(z);
+            draw();
+            int rest = draw() % 100;
+            w.rule(1, rest + more);
+            w.evenings(1);
+            draw();
+            Due.is("12: below FOG, or not", w.told(0, 2), more == 0 ? 50 : draw() % 100);
+        }
         TwelveShort y = new TwelveShort();
         y.rule(1, 100);
         y.evenings(1);

@@ -95,6 +95,9 @@ public final class PeopleTest {
         Due.is("3: NEIGHBOUR of WIT 5 brings", x.told(0, 7), 0);
         Due.is("3: LAMPLIGHTER of WIT 9 brings", x.told(2, 7), 2);
         Due.is("3: LAMPLIGHTER of 3 STEPS walks", x.told(2, 6), 0);
+        x.set(0, 2, 3);
+        Due.is("3: NEIGHBOUR of 3 STEPS walks", x.told(0, 6), 0);
+        x.set(0, 2, 60);
         Due.is("3: LAMPLIGHTER of 61 STEPS walks", x.told(3, 6), 25);
         Due.is("3: THIEF of 2 STEPS walks", x.told(4, 6), 0);
         Due.is("3: THIEF of ODDS 100 comes", x.told(4, 5), 60);
@@ -175,6 +178,8 @@ public final class PeopleTest {
         Due.is("7: rule(-1, 0)", x.rule(-1, 0), TwelveShort.BAD);
         Due.is("7: count(2)", x.count(2), 0);
         Due.is("7: count(3)", x.count(3), 100);
+        Due.is("7: rule(1, 0)", x.rule(1, 0), 100);
+        Due.is("7: count(3)", x.count(3), 0);
     }
 
     private static void deal() {
@@ -227,6 +232,14 @@ public final class PeopleTest {
             Due.is("10: fewest(" + d[0] + ", 1)", x.fewest(d[0], 1), Integer.bitCount(d[1]));
         }
         Due.is("10: fewest(27, 0)", x.fewest(27, 0), TwelveShort.NONE);
+        TwelveShort y = new TwelveShort();
+        for (int i = 0; i < 10; i++) {
+            y.person(3, 0, 0, 99);
+        }
+        Due.is("10: all ten", y.fewest(280, 0), 1023);
+        Due.is("10: ten", y.fewest(253, 1), 10);
+        Due.is("10: the least of nine", y.fewest(252, 0), 511);
+        Due.is("10: more than all", y.fewest(281, 0), TwelveShort.NONE);
         Due.is("10: fewest(999, 1)", x.fewest(999, 1), TwelveShort.NONE);
         Due.is("10: fewest(1000, 0)", x.fewest(1000, 0), TwelveShort.BAD);
         Due.is("10: fewest(-1, 0)", x.fewest(-1, 0), TwelveShort.BAD);

@@ -123,8 +123,16 @@ public final class RowsTest {
         Due.is("39: back() without an IMAGE", x.back(), TwelveShort.NO);
         Due.is("38: keep() of nobody", x.keep(), 0);
         x.deal(5);
+        x.set(0, 4, 77);
+        x.rule(0, 5);
+        x.sits(31);
+        Due.is("11: FAILED", x.house(2), 1);
         Due.is("39: back() to nobody", x.back(), 0);
         Due.is("39: count(0)", x.count(0), 0);
+        Due.is("39: FAILED", x.house(2), 0);
+        x.person(0, 1, 2, 3);
+        Due.is("2: TIMES of a new one", x.told(0, 4), 0);
+        x.back();
         x.seed(99);
         x.deal(4);
         x.rule(0, 2);

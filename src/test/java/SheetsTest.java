@@ -34,8 +34,10 @@ public final class SheetsTest {
         Due.is("27: sheet(0, 2, -1)", x.sheet(0, 2, -1), TwelveShort.BAD);
         Due.is("27: sheet(0, 1, MIN)", x.sheet(0, 1, MIN), TwelveShort.SIZE);
         Due.is("27: the last place is still there", x.mark(0, 23, 9), 1);
+        x.mark(0, 0, 9);
         Due.is("27: sheet(0, 0, 24) again", x.sheet(0, 0, 24), 24);
         Due.is("27: all 0", place(x, 0, 23), 0);
+        Due.is("27: all 0", place(x, 0, 0), 0);
         Due.is("27: sheet(0, -1, 25)", x.sheet(0, -1, 25), 0);
         Due.is("27: MISSING", x.mark(0, 0, 1), TwelveShort.NOTHING);
         Due.is("27: sheet(0, -1, MIN)", x.sheet(0, -1, MIN), 0);

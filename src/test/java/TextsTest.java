@@ -123,6 +123,16 @@ public final class TextsTest {
         fault("fine o+w", -1);
         fault("fin o", 0);
         fault("finew", 0);
+        fault("xsk o", 0);
+        fault("o", 0);
+        fault(" (o)", 1);
+        fault("12", 0);
+        fault("fee sz", 4);
+        fault("fee sa", 4);
+        fault("fee 1" + (char) ('0' - 1) + "2", -1);
+        fault("fee 1:2", 5);
+        fault("fee `", 4);
+        fault("fee {", 4);
     }
 
     private static void limits() {
@@ -182,6 +192,9 @@ public final class TextsTest {
         give("s<f", 1);
         give("f<s", 0);
         give("f>s", 1);
+        give("s>f", 0);
+        give("2<s", 0);
+        give("2>s", 0);
         give("s=2", 1);
         give("s=f", 0);
         give("s+1=f", 1);
@@ -253,6 +266,9 @@ public final class TextsTest {
             Due.is("25: textTold(" + t + ", 1)", x.textTold(t, 1), due[t][1]);
         }
         Due.is("25: textTold(3, 0)", x.textTold(3, 0), TwelveShort.BAD);
+        Due.text(x, "ask 4");
+        Due.is("25: nothing is left of a FAULT", x.textTold(3, 1), 1);
+        Due.is("25: textTold(4, 0)", x.textTold(4, 0), TwelveShort.BAD);
         Due.is("25: textTold(-1, 0)", x.textTold(-1, 0), TwelveShort.BAD);
         Due.is("25: textTold(0, 2)", x.textTold(0, 2), TwelveShort.BAD);
         Due.is("25: textTold(0, -1)", x.textTold(0, -1), TwelveShort.BAD);

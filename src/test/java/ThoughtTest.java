@@ -70,6 +70,38 @@ public final class ThoughtTest {
         } while (n < 200 && (y.house(3) & 18) != 18);
         Due.is("15: as it comes then", n, due);
         Due.is("15: both have sat", y.house(3) & 18, 18);
+        for (int due200 = 199; due200 <= 201; due200++) {
+            TwelveShort w = new TwelveShort();
+            w.person(0, 0, 0, 0);
+            w.person(0, 0, 0, 0);
+            Due.text(w, "ask 7");
+            w.seed(seedOfMeeting(due200));
+            Due.is("15: behind " + due200, w.meets(0, 1), due200 > 200 ? TwelveShort.NONE : due200);
+        }
+    }
+
+    /** With two that come by 7 each, and are never sent for. */
+    private static int seedOfMeeting(int n) {
+        int seed = 0;
+        while (firstMeeting(seed) != n) {
+            seed++;
+        }
+        return seed;
+    }
+
+    private static int firstMeeting(int seed) {
+        int z = seed;
+        for (int n = 1; n < 300; n++) {
+            z = z * 1103515245 + 12345;
+            boolean one = (z >>> 8) % 100 < 7;
+            z = z * 1103515245 + 12345;
+            boolean two = (z >>> 8) % 100 < 7;
+            z = z * 1103515245 + 12345;
+            if (one && two) {
+                return n;
+            }
+        }
+        return 300;
     }
 
     /** ask is 100 for whoever has WIT 90, else 0: of those that must never be one, the nearest other is sent for. */
@@ -90,6 +122,12 @@ public final class ThoughtTest {
         Due.is("16: door(1, 1)", x.door(1, 1), 16);
         Due.is("16: door(60, 1)", x.door(60, 1), 960);
         Due.is("16: STEPS stay", x.told(2, 2), 60);
+        x.set(3, 2, 0);
+        Due.is("16: the first of two at the door is sent for", x.door(1, 0), 0);
+        x.set(2, 3, 88);
+        Due.is("16: the first of two at the door is better", x.door(1, 0), 2);
+        x.set(2, 3, 70);
+        x.set(3, 2, 70);
         x.rule(0, 5);
         Due.is("16: all are as good", x.door(60, 0), 0);
         Due.is("16: door(0, 0)", x.door(0, 0), TwelveShort.BAD);
@@ -175,6 +213,11 @@ public final class ThoughtTest {
             Due.is("18: becomes(2, " + n + ", 1)", x.becomes(2, n, 1), most);
         }
         Due.is("18: KIND stays", x.told(2, 0), 0);
+        Due.text(x, "ask 0");
+        x.seed(1);
+        // The third draw's rest is 10 or more, so that not even a THIEF comes.
+        Due.is("18: all are as good", x.becomes(2, 1, 0), 0);
+        Due.is("18: nobody comes", x.becomes(2, 1, 1), 0);
         Due.is("18: becomes(4, 1, 0)", x.becomes(4, 1, 0), TwelveShort.BAD);
         Due.is("18: becomes(-1, 1, 0)", x.becomes(-1, 1, 0), TwelveShort.BAD);
         Due.is("18: becomes(0, 0, 0)", x.becomes(0, 0, 0), TwelveShort.BAD);
