@@ -8,6 +8,7 @@ public final class RowsEdgesTest {
         p37oneAndThirty();
         p37whereTheFirstIsNot();
         p37missingOrOneTooMany();
+        p37numbersOfAnEarlierCheckAreGone();
         p37noneWaitWhateverIsAnswered();
         p37fewerUpToTheEvening9999();
         p37byTheImageNotByNow();
@@ -121,6 +122,17 @@ public final class RowsEdgesTest {
                 tellAll(x, due, many);
                 Due.is("37: check(" + n + ") of " + many, x.check(n), many == 2 * n ? 0 : 1 + Math.min(many, 2 * n));
             }
+        }
+    }
+
+    private static void p37numbersOfAnEarlierCheckAreGone() {
+        int[] due = due(5);
+        for (int many = 0; many < 10; many++) {
+            TwelveShort x = dealt();
+            tellAll(x, due, 10);
+            Due.is("37: all", x.check(5), 0);
+            tellAll(x, due, many);
+            Due.is("37: then " + many + " of them", x.check(5), 1 + many);
         }
     }
 

@@ -16,6 +16,7 @@ public final class TextsEdgesTest {
         p24anEmptyTape();
         p24aTapeOf96Bytes();
         p24keysAsTheyAreWritten();
+        p24keysWithOneLetterChanged();
         p24numbersOf1To4Digits();
         p24namesOfEachKey();
         p24namesAreOneLetter();
@@ -41,6 +42,7 @@ public final class TextsEdgesTest {
         p24fromLeftToRight();
         p24whatNamesTell();
         p25howManyNumbersAndNames();
+        p25nothingIsLeftOfAFault();
         p25keysOfTexts();
         p26theOneToldLastCounts();
         Due.finish();
@@ -233,6 +235,20 @@ public final class TextsEdgesTest {
         fault("ask fee 1", 4);
         fault("fine fine", 5);
         fault("fee 1 fee 1", 6);
+    }
+
+    private static void p24keysWithOneLetterChanged() {
+        String[] keys = {"ask", "fee", "fine"};
+        for (String key : keys) {
+            for (int at = 0; at < key.length(); at++) {
+                for (char c = 'a'; c <= 'z'; c++) {
+                    String other = key.substring(0, at) + c + key.substring(at + 1);
+                    fault(other + " 1", other.equals(key) ? RIGHT : 0);
+                }
+                fault(key.substring(0, at) + " 1", at == 0 ? 1 : 0);
+                fault(key.substring(0, at) + " " + key.substring(at) + " 1", at == 0 ? RIGHT : 0);
+            }
+        }
     }
 
     /** "NUMBER (1 to 4 digits)"; "a NUMBER of more than 4 digits" */
@@ -659,6 +675,29 @@ public final class TextsEdgesTest {
         }
         Due.is("25: behind the last", x.textTold(texts.length, 1), TwelveShort.BAD);
         Due.is("25: ahead of the first", x.textTold(-1, 1), TwelveShort.BAD);
+    }
+
+    /** "A call that is refused .. changes nothing (but the tape ..)" */
+    private static void p25nothingIsLeftOfAFault() {
+        TwelveShort x = new TwelveShort();
+        for (int again = 0; again < 8; again++) {
+            Due.is("24: a FAULT at the end", Due.text(x, "fee 1" + "+1".repeat(45) + "+"), -196);
+        }
+        Due.is("24: a right one", Due.text(x, "fee 7-(2-s)"), 0);
+        Due.is("20: what it gives", x.fee(), 5);
+        Due.is("25: NUMBERS and NAMES", x.textTold(0, 1), 3);
+        Due.is("25: KEY", x.textTold(0, 0), 1);
+        x.keep();
+        for (int again = 0; again < 8; again++) {
+            Due.is("24: another", Due.text(x, "ask 1" + "+1".repeat(45)), 1);
+            Due.is("25: NUMBERS and NAMES", x.textTold(1, 1), 46);
+            x.back();
+        }
+        Due.is("24: a right one in its place", Due.text(x, "fee 9-(2-s)"), 1);
+        Due.is("20: what it gives", x.fee(), 7);
+        Due.is("25: NUMBERS and NAMES", x.textTold(1, 1), 3);
+        Due.is("25: KEY", x.textTold(1, 0), 1);
+        Due.is("26: of ask none counts", x.why(0), TwelveShort.NONE);
     }
 
     /** "what 0 KEY (0 ask, 1 fee, 2 fine)" */

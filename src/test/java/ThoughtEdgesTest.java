@@ -25,6 +25,7 @@ public final class ThoughtEdgesTest {
         p18ofSeveralTheLeast();
         p19placeKIsBehindKEvenings();
         p19noPlacesAnd24();
+        p19oneOfTen();
         p19placesThatAreNumbers();
         p19signsAreLeftOut();
         p19ofSeveralTheLeast();
@@ -419,6 +420,23 @@ public final class ThoughtEdgesTest {
             x.sheet(1, sort, 24);
             // 9 and 10 and .. and 32.
             Due.is("19: 24 places, the differences", x.like(1, 1), (9 + 32) * 12);
+        }
+    }
+
+    private static void p19oneOfTen() {
+        for (int who = 0; who < 10; who++) {
+            TwelveShort x = new TwelveShort();
+            for (int p = 0; p < 10; p++) {
+                x.person(5, 0, 0, 0);
+                x.set(p, 4, p == who ? 500 : 600);
+            }
+            x.rule(0, 10);
+            x.sheet(0, 0, 24);
+            for (int k = 0; k < 24; k++) {
+                x.mark(0, k, 501);
+            }
+            Due.is("19: of ten, the one", x.like(0, 0), who);
+            Due.is("19: of ten, the differences", x.like(0, 1), 24);
         }
     }
 
