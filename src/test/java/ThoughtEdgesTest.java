@@ -16,6 +16,7 @@ public final class ThoughtEdgesTest {
         p16oneAndSixtyEvenings();
         p16everyoneMayBeTheOne();
         p16ofSeveralTheLeast();
+        p16stepsAre0AndNoNearer();
         p16nobodyIsThere();
         p17oneAndSixtyEvenings();
         p17never0AndNever10MayBeBest();
@@ -239,6 +240,27 @@ public final class ThoughtEdgesTest {
         TwelveShort y = talked99999();
         Due.is("16: TALK is 99999 anyway", y.door(60, 0), 0);
         Due.is("16: TALK then", y.door(60, 1), 99999);
+    }
+
+    /** "the one whose STEPS had best be 0": another one that walks 0 and is the least is sent for all the same. */
+    private static void p16stepsAre0AndNoNearer() {
+        TwelveShort x = new TwelveShort();
+        x.person(0, 0, 0, 10);
+        x.person(0, 0, 50, 30);
+        Due.text(x, "ask 0");
+        x.rule(0, 0);
+        Due.is("16: 0 is as near, whoever is at the door", x.door(1, 0), 0);
+        Due.is("16: TALK then", x.door(1, 1), 1);
+        x.set(0, 2, 1);
+        Due.is("16: 1 is not as near", x.door(1, 0), 1);
+        Due.is("16: TALK then", x.door(1, 1), 3);
+        // NEIGHBOURS walk 10 less, 0 at least: the least of those that walk 0.
+        x.turns(0, 2);
+        x.set(0, 2, 10);
+        x.turns(1, 2);
+        Due.is("16: a NEIGHBOUR walks 0 by 10 STEPS", x.door(1, 1), 0);
+        x.set(0, 2, 11);
+        Due.is("16: a NEIGHBOUR walks 1 by 11 STEPS", x.door(1, 1), 2);
     }
 
     private static TwelveShort talked99999() {
