@@ -17,7 +17,7 @@ final class Both {
     /** What both answer; what is beyond the numbers that the call takes does not count. */
     int call(int which, int... a) {
         calls++;
-        int got = which < 20 ? people(x, which, a) : things(x, which, a);
+        int got = on(x, which, a);
         int want = which < 20 ? people(m, which, a) : things(m, which, a);
         if (got != want) {
             StringBuilder name = new StringBuilder(NAMES[which]);
@@ -47,6 +47,11 @@ final class Both {
             call(FEED, a);
         }
         call(TRIM, text.length());
+    }
+
+    /** The call on the class alone. */
+    static int on(TwelveShort o, int which, int[] a) {
+        return which < 20 ? people(o, which, a) : things(o, which, a);
     }
 
     private static int people(TwelveShort o, int which, int[] a) {

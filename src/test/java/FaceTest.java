@@ -6,10 +6,8 @@ import java.nio.file.Path;
 import java.util.Arrays;
 import java.util.Set;
 import java.util.TreeSet;
-import java.util.regex.Matcher;
-import java.util.regex.Pattern;
 
-/** The face of the document and nothing beside it; and the rules of LANGUAGE.md that a look at the file can tell. */
+/** The face of the document, and nothing beside it. */
 public final class FaceTest {
     private static final Object[][] FACE = {
         {"person", 4}, {"told", 2}, {"as", 2}, {"turns", 2}, {"set", 3}, {"rule", 2}, {"deal", 1}, {"seed", 1},
@@ -23,7 +21,7 @@ public final class FaceTest {
         methods();
         constants();
         nested();
-        source();
+        signatures();
         Due.finish();
     }
 
@@ -79,17 +77,35 @@ public final class FaceTest {
         }
     }
 
-    private static void source() throws Exception {
+    /** As the document writes them, in its order, with what it says ahead of each group. */
+    private static void signatures() throws Exception {
         String code = Files.readString(Path.of("src/main/java/TwelveShort.java"));
-        code = code.replaceAll("(?s)/\\*.*?\\*/", "").replaceAll("//[^\n]*", "").replaceAll("\"[^\"\n]*\"", "\"\"");
-        Matcher words = Pattern.compile("\\b(throw|throws|try|catch|synchronized|assert|import|package|Exact|lambda|hashCode|toString|NaN|double|float|static \\{)\\b|->|::").matcher(code);
-        while (words.find()) {
-            Due.is("a word that LANGUAGE.md leaves out: " + words.group(), 1, 0);
-        }
-        for (int i = 0; i < code.length(); i++) {
-            if (code.charAt(i) > 127) {
-                Due.is("a sign beyond 127 at " + i, 1, 0);
-            }
+        String[] rows = {
+            "public TwelveShort() {", "// ---- people", "public int person(int kind, int odds, int steps, int wit) {",
+            "public int told(int person, int what) {", "public int as(int person, int kind) {",
+            "public int turns(int person, int kind) {", "public int set(int person, int what, int v) {",
+            "public int rule(int what, int v) {", "public int deal(int n) {", "public int seed(int v) {",
+            "public int fewest(int v, int what) {", "// ---- evenings", "public int sits(int set) {",
+            "public int evenings(int n) {", "public int house(int what) {", "// ---- what will be",
+            "public int behind(int n, int what) {", "public int meets(int person, int other) {",
+            "public int door(int n, int what) {", "public int never(int n, int what) {",
+            "public int becomes(int person, int n, int what) {", "public int like(int sheet, int what) {",
+            "public int fee() {", "public int fine(int person) {", "// ---- texts",
+            "public int feed(int a, int b, int c) {", "public int trim(int n) {", "public int text() {",
+            "public int textTold(int text, int what) {", "public int why(int key) {", "// ---- sheets, slots",
+            "public int sheet(int sheet, int sort, int n) {", "public int mark(int sheet, int place, int v) {",
+            "public int pour(int sheet) {", "public int reads(int sheet) {",
+            "public int copy(int from, int place, int to, int at, int many) {",
+            "public int lay(int slot, int thing, int k) {", "public int ask(int slot, int kind) {",
+            "public int item(int slot, int place) {", "public int rest(int slot, int n) {", "// ---- rows, images",
+            "public int tell(int v) {", "public int check(int n) {", "public int keep() {", "public int back() {",
+            "public int count(int what) {",
+        };
+        int from = 0;
+        for (String row : rows) {
+            int at = code.indexOf("\n    " + row + "\n", from);
+            Due.is("in its order: " + row, at >= 0 ? 1 : 0, 1);
+            from = Math.max(at, from);
         }
     }
 }
